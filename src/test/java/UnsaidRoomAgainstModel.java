@@ -1090,8 +1090,9 @@ public final class UnsaidRoomAgainstModel {
         StringBuilder t = new StringBuilder();
         int rooms = R.nextInt(12) == 0 ? upTo(9) : 3 + upTo(5);
         boolean[] unsaid = new boolean[rooms];
+        int home = R.nextInt(4) == 0 ? Math.max(rooms - 1, 0) : 0;
         for (int i = 0; i < rooms; i++) {
-            unsaid[i] = i > 0 && R.nextInt(3) == 0;
+            unsaid[i] = i != home && R.nextInt(3) == 0;
             t.append(unsaid[i] ? "unsaid r" + (char) ('a' + i) + " holds " + (R.nextInt(3) > 0 ? 1 + R.nextInt(5) : 1 + R.nextInt(20)) : "room r" + (char) ('a' + i)).append(";");
         }
         Set<Integer> pairs = new HashSet<>();
@@ -1108,13 +1109,15 @@ public final class UnsaidRoomAgainstModel {
         for (int i = 0; i < persons && rooms > 0; i++) {
             int at = R.nextInt(rooms);
             if (unsaid[at] && R.nextInt(40) > 0) {
-                at = 0;
+                at = home;
             }
             t.append("person p").append((char) ('a' + i)).append(" ").append(pick("guest", "guest", "wife", "child", "child", "taxman"));
             t.append(" age ").append(R.nextInt(2) == 0 ? upTo(8) : upTo(99)).append(" in r").append((char) ('a' + at)).append(";");
         }
         if (R.nextInt(4) > 0) {
-            t.append("stays ").append(pick("much+", "", "", "much+times*2-nods+", "(30<years)+")).append(e(R.nextInt(5))).append(";");
+            String e = e(R.nextInt(5));
+            t.append("stays ").append(R.nextInt(3) == 0 ? "(" + e + ")*3+" + pick("2", "much", "times")
+                : pick("much+", "", "", "much+times*2-nods+", "(30<years)+") + e).append(";");
         }
         return t.toString();
     }
@@ -1274,7 +1277,7 @@ public final class UnsaidRoomAgainstModel {
                 due("evenings(" + s + ", " + w + ", " + k + ")", x.evenings(s, w, k), m.evenings(s, w, k));
                 break;
             }
-            case 30: { int k = within(0, 3); boolean back = R.nextInt(3) == 0; due("mark(" + k + ", " + back + ")", b(x.mark(k, back)), b(m.mark(k, back))); break; }
+            case 30: { int k = within(0, 3); boolean back = R.nextInt(2) == 0; due("mark(" + k + ", " + back + ")", b(x.mark(k, back)), b(m.mark(k, back))); if (back) { sameAllOver(); } break; }
             default: { int k = within(0, 12); due("count(" + k + ")", x.count(k), m.count(k)); }
         }
     }
@@ -1283,6 +1286,10 @@ public final class UnsaidRoomAgainstModel {
         for (int k = 0; k <= 12; k++) {
             due("count(" + k + ")", x.count(k), m.count(k));
         }
+        for (int k = 0; k <= 2; k++) {
+            due("judged(" + k + ")", x.judged(k), m.judged(k));
+        }
+        due("which()", x.which(), m.which());
         for (int r = 0; r < m.rooms.size(); r++) {
             for (int k = 0; k <= 4; k++) {
                 due("room(" + r + ", " + k + ")", x.room(r, k), m.room(r, k));
@@ -1319,7 +1326,7 @@ public final class UnsaidRoomAgainstModel {
             } else {
                 askOnce();
             }
-            if (R.nextInt(150) == 0) {
+            if (R.nextInt(50) == 0) {
                 readEvening();
             }
             if (R.nextInt(300) == 0) {

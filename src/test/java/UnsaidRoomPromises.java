@@ -108,6 +108,8 @@ public final class UnsaidRoomPromises {
         due(3, "blanks", marches(" \n \n"), 0);
         due(3, "blanks where one likes", marches("\n room\na ; unsaid b\n\nholds 20;door a b;"), 0);
         due(3, "8 letters", marches("room abcdefgh;"), 0);
+        due(3, "all letters", marches("room abcdefgz;room z;room zz;door zz z;"), 0);
+        due(3, "0 and 9 are digits", marches("room a;person b wife age 09 in a;person c wife age 0 in a;"), 0);
         due(3, "9 letters", marches("room abcdefghi;"), fault(1, 5));
         due(3, "a number with a letter behind", marches("room a;person b wife age 7in a;"), 0);
         due(3, "a word with a number behind", marches("unsaid a holds7;"), 0);
@@ -187,7 +189,14 @@ public final class UnsaidRoomPromises {
         due(3, "without stays: much", house().stay(0, 1), 4);
         due(3, "and, or from the left", law("1 or 1 and 0"), 1);
         due(3, "or at last", law("(0 and 0 or 1)+4"), 5);
-        due(3, "and is 1", law("5 and 7"), 1);
+        String[] tests = {"0 and 0", "0 and 7", "5 and 0", "5 and 7", "0 or 0", "0 or 7", "5 or 0", "5 or 7", "1 and 1",
+            "1 or 0", "0 or 1", "1 and 0", "0 and 1", "3<2", "2<3", "3<3", "3=3", "3=2", "not 0", "not 1", "not 7"};
+        int[] ones = {0, 0, 0, 1, 0, 1, 1, 1, 1, 1, 1, 0, 0, 0, 1, 0, 1, 0, 1, 0, 0};
+        for (int i = 0; i < tests.length; i++) {
+            due(3, tests[i], law("(" + tests[i] + ")*7+2"), ones[i] * 7 + 2);
+        }
+        due(3, "0 is cut to 1", law("0"), 1);
+        due(3, "0 in a sum", law("0+3"), 3);
         due(3, "and is 1, told", law("(5 and 7)+6"), 7);
         due(3, "not binds tighter", law("not 0+5"), 6);
         due(3, "not of not 0", law("not 3+5"), 5);
@@ -233,6 +242,19 @@ public final class UnsaidRoomPromises {
         due(3, "anew: no mark", x.mark(0, true), false);
         due(3, "empty marches", x.marches(), 0);
         due(3, "nothing is left", x.count(0) + x.count(1) + x.count(2) + x.count(5), 0);
+        tell(x, "room a;unsaid b holds 3;room c;stays 9;person p wife age 1 in c;");
+        x.marches();
+        tell(x, "room c;unsaid b holds 3;person p wife age 1 in c;");
+        due(3, "of the marches ahead no name is told", x.marches(), 0);
+        due(3, "nor any law", x.stay(0, 1), 3);
+        tell(x, "room c;unsaid b holds 3;stays 8;door c b;person p wife age 1 in c;");
+        due(3, "nor stays", x.marches(), 0);
+        x.show(0, 1);
+        x.burn(0);
+        tell(x, "room c;unsaid b holds 3;");
+        due(3, "nor doors", x.marches(), 0);
+        due(3, "none of c", x.room(0, 2), 0);
+        due(3, "nor fire", x.count(6), 0);
     }
 
     static void p4() {
@@ -629,6 +651,7 @@ public final class UnsaidRoomPromises {
         due(23, "never", x.far(0, 5), NONE);
         due(23, "unsaid", x.far(0, 1), NONE);
         due(23, "unsaid from", x.far(1, 1), NONE);
+        due(23, "from unsaid", x.far(1, 0), NONE);
         due(23, "room 6", x.far(6, 0), NONE);
         due(23, "room -1", x.far(0, -1), NONE);
         due(24, "halls", x.halls(), 2);
@@ -674,6 +697,10 @@ public final class UnsaidRoomPromises {
         due(23, "seven", row.far(0, 7), 7);
         due(22, "all", row.reach(4), 255);
         due(25, "all but the ends", row.hinges(), 126);
+        UnsaidRoom star = new UnsaidRoom();
+        tell(star, "room a;room b;room c;door a b;door a c;");
+        star.marches();
+        due(25, "the first", star.hinges(), 1);
     }
 
     static void p28() {
@@ -721,6 +748,16 @@ public final class UnsaidRoomPromises {
         UnsaidRoom x = house();
         due(29, "none", x.longest(), NONE);
         due(30, "none", x.as(), 0);
+        UnsaidRoom one = new UnsaidRoom();
+        tell(one, "room a;room b;unsaid u holds 1;unsaid v holds 1;door a u;door b v;"
+            + "person p wife age 9 in a;person q wife age 9 in b;");
+        one.marches();
+        one.show(0, 2);
+        one.minute();
+        due(29, "one minute", one.longest(), 0);
+        one.show(1, 3);
+        one.minute();
+        due(30, "one minute each", one.as(), 1);
         x.show(2, 1);
         minutes(x, 4);
         due(29, "tom", x.longest(), 2);
@@ -742,12 +779,21 @@ public final class UnsaidRoomPromises {
         due(31, "person -1", x.been(-1), NONE);
     }
 
+    static boolean marchesAlike(String text) {
+        UnsaidRoom x = new UnsaidRoom();
+        tell(x, text);
+        x.marches();
+        return x.alike();
+    }
+
     static void p32to33() {
         due(32, "nothing", new UnsaidRoom().alike(), true);
         due(32, "4 and 7", house().alike(), false);
         due(32, "5 and 5", house("stays 5;").alike(), true);
         due(32, "30 at most", house("stays much*10;").alike(), true);
         due(32, "for one alone not", house("stays much*(years=50);").alike(), false);
+        due(32, "for the first alone not", house("stays much*(years=40);").alike(), false);
+        due(32, "a room 0, too", marchesAlike("unsaid a holds 1;unsaid b holds 2;room c;person p wife age 1 in c;"), false);
         UnsaidRoom x = new UnsaidRoom();
         tell(x, "unsaid a holds 1;unsaid b holds 2;");
         x.marches();
@@ -759,6 +805,10 @@ public final class UnsaidRoomPromises {
         due(33, "sue, too, and ann may", y.widows(), 16 + 8);
         y.show(0, 1);
         due(33, "tom, while gus is inside", y.widows(), 16 + 8 + 4);
+        UnsaidRoom lone = new UnsaidRoom();
+        tell(lone, "room a;person p wife age 1 in a;");
+        lone.marches();
+        due(33, "the first", lone.widows(), 1);
         due(33, "of nothing", new UnsaidRoom().widows(), 0);
     }
 
@@ -792,6 +842,20 @@ public final class UnsaidRoomPromises {
         y.undo();
         due(35, "4 again", y.which(), 2);
         due(35, "of nothing", new UnsaidRoom().which(), 0);
+        UnsaidRoom first = new UnsaidRoom();
+        tell(first, "unsaid u holds 2;unsaid v holds 3;room a;door a u;door a v;person p guest age 1 in a;");
+        first.marches();
+        due(19, "room 0, too", first.may(0), 3);
+        first.see(0, 3, true);
+        due(35, "not room 0", first.which(), 2);
+        first.mark(0, false);
+        first.see(0, 2, false);
+        due(35, "nor by what it's not", first.which(), 2);
+        first.see(0, 2, true);
+        due(35, "none", first.which(), 0);
+        first.mark(0, true);
+        first.see(0, 3, false);
+        due(35, "so and not so", first.which(), 0);
         UnsaidRoom z = new UnsaidRoom();
         tell(z, "room a;unsaid u holds 2;unsaid v holds 3;unsaid w holds 4;person p guest age 1 in a;"
             + "person q wife age 2 in a;person r wife age 3 in a;stays (much<3)*(years=2)+(years=3)*much;");
@@ -850,6 +914,7 @@ public final class UnsaidRoomPromises {
         rest("nobody gets by going in", new int[] {9, 0, 9}, NONE, 3);
         rest("both wait, first", new int[] {9, 0, 9}, 0, 0);
         rest("both go in at no loss", new int[] {0, 1, 0}, 2, 3);
+        rest("who waits gets more", new int[] {0, 1, 1}, NONE, 2);
         rest("9", new int[] {9, 9, 9}, NONE, 2);
         rest("lose 10", new int[] {10, 0, 0}, NONE, -99);
         rest("lose -1", new int[] {-1, 0, 0}, NONE, -99);
@@ -864,6 +929,7 @@ public final class UnsaidRoomPromises {
     static void p39() {
         UnsaidRoom x = house();
         due(39, "seed -1", x.evenings(-1, 9, 0), NONE);
+        due(39, "seed 9999", x.evenings(9999, 1, 0), 0);
         due(39, "seed 10000", x.evenings(10000, 9, 0), NONE);
         due(39, "minutes 0", x.evenings(0, 0, 0), NONE);
         due(39, "minutes 100", x.evenings(0, 100, 0), NONE);
@@ -957,7 +1023,35 @@ public final class UnsaidRoomPromises {
         x.mark(3, true);
         due(40, "the new one", x.count(3), 2);
         due(40, "the others are empty", x.mark(0, true) || x.mark(1, true) || x.mark(2, true), false);
+        heldLines();
         due(40, "laying leaves undo", undoAfterMark(), true);
+    }
+
+    static void heldLines() {
+        UnsaidRoom x = house();
+        tell(x, "show gus dark;minute;walk ann hall;");
+        x.evening();
+        x.see(0, 4, true);
+        x.mark(1, false);
+        tell(x, "walk ann barn;minute;burn kit;");
+        x.evening();
+        tell(x, "minute;speak tom;show tom dark;");
+        x.evening();
+        due(40, "another evening", x.judged(0), 1);
+        x.mark(1, true);
+        due(40, "its lines", x.judged(0), NONE);
+        due(40, "its minutes", x.judged(2), 1);
+        x.mark(2, false);
+        tell(x, HOUSE);
+        x.marches();
+        x.see(1, 7, false);
+        x.mark(0, false);
+        x.mark(3, false);
+        x.see(2, 7, true);
+        due(40, "none", x.which(), 0);
+        x.mark(0, true);
+        due(40, "what was seen", x.which(), 2);
+        due(40, "gone with the marches", x.mark(2, true), false);
     }
 
     static boolean undoAfterMark() {
