@@ -208,7 +208,23 @@ public final class UnsaidRoomPromises {
         due(3, "facts", law("much*1+times*5+years-20+nods*9"), 24);
         due(3, "a word close to a number", law("2*not 0+4and 1"), 1);
         due(3, "ints wrap", law("9999*9999*9999*9999-(9999*9999*9999*9999-1)+6"), 7);
+        due(3, "the deepest", law("2+5*(0 or 0<0+1*(0 or 0<0+1*(0 or 0<0+1*(0 or 0<0+1*2))))"), 7);
+        longLaw();
         due(3, "wrapped sign", law("(9999*9999*22<0)+2"), 9999 * 9999 * 22 < 0 ? 3 : 2);
+    }
+
+    /** The longest law that has room on the TAPE, to its last sign. */
+    static void longLaw() {
+        StringBuilder text = new StringBuilder("room a;unsaid u holds 1;person p wife age 1 in a;stays 3");
+        while (text.length() < 996) {
+            text.append("+1-1");
+        }
+        text.append("+7 ;");
+        UnsaidRoom x = new UnsaidRoom();
+        tell(x, text.toString());
+        due(3, "1,000 signs", x.count(12), 1000);
+        due(3, "a long law", x.marches(), 0);
+        due(3, "its stay", x.stay(0, 1), 10);
     }
 
     static void p3state() {
@@ -1052,6 +1068,15 @@ public final class UnsaidRoomPromises {
         x.mark(0, true);
         due(40, "what was seen", x.which(), 2);
         due(40, "gone with the marches", x.mark(2, true), false);
+        UnsaidRoom y = house("stays much+(years=30);");
+        y.mark(0, false);
+        y.see(0, 4, true);
+        y.mark(1, false);
+        y.mark(0, true);
+        y.see(1, 4, false);
+        due(40, "another was seen", y.which(), 2 + 16);
+        y.mark(1, true);
+        due(40, "of whom, how long, and so", y.which(), 2);
     }
 
     static boolean undoAfterMark() {
