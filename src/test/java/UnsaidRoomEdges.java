@@ -87,6 +87,11 @@ public final class UnsaidRoomEdges {
         return x.marches();
     }
 
+    static int readAgain(UnsaidRoom x, String text) {
+        tell(x, text);
+        return x.marches();
+    }
+
     static int evening(UnsaidRoom x, String text) {
         tell(x, text);
         return x.evening();
@@ -484,6 +489,22 @@ public final class UnsaidRoomEdges {
         dueFault("room a;person b wife age 1^", 1);
         dueFault("room a;person b wife age 1 in^", 1);
         dueFault("room a;person b wife age 1 in a^", 1);
+        UnsaidRoom stale = new UnsaidRoom();
+        tell(stale, "stays 123456789;");
+        stale.marches();
+        due("digits of an earlier text are none of it", readAgain(stale, "stays 1"), fault(1, 7));
+        tell(stale, "room abcdefghijk;");
+        stale.marches();
+        due("letters of an earlier text are none of it", readAgain(stale, "room a"), fault(1, 6));
+        due("blanks of an earlier text are none of it", readAgain(stale, "room a      ;"), 0);
+        due("nor is its sign", readAgain(stale, "room a     "), fault(1, 11));
+        dueFault(times(993, " ") + "stays 1^", 1);
+        dueFault(times(994, " ") + "room a^", 1);
+        dueFault(times(999, " ") + "^(", 1);
+        dueFine(times(1000, "\n"));
+        dueFault(times(992, " ") + "^abcdefgh", 1);
+        dueFault(times(991, " ") + "^abcdefghi", 1);
+        dueFault(times(996, " ") + "^9999", 1);
         says(3, "of the first token from the left that is wrong the least");
         dueFault("room a;room ^a;room a;", 3);
         dueFault("unsaid a holds ^0;door x y;", 4);
@@ -548,6 +569,13 @@ public final class UnsaidRoomEdges {
         dueLineFault("^stays 1;", 1);
         dueLineFault("^unsaid a holds 1;", 1);
         dueLineFault("walk ^12345 kit;", 1);
+        for (String word : KEPT) {
+            boolean line = Arrays.asList("walk", "show", "speak", "burn", "minute").contains(word);
+            if (!line) {
+                dueLineFault("^" + word + ";", 1);
+                dueLineFault("minute;^" + word + " gus kit;", 1);
+            }
+        }
         dueLineFault("minute;walk gus kit;^room a;", 1);
         says(4, "40 lines at most");
         String forty = times(40, "minute;");
@@ -601,6 +629,26 @@ public final class UnsaidRoomEdges {
         due("the names", evening(x, "walk gus kit;show ann deep;"), 0);
         due("undo", x.undo(), true);
         due("the mark", x.mark(2, true), true);
+        says(3, "Without a FAULT MARCHES are the MARCHES from then on");
+        tell(x, "room a;unsaid b holds 5;door a b;person p wife age 1 in a;stays 9;room");
+        due("a fault at the end", x.marches() != 0, true);
+        tell(x, "room a;room b;unsaid c holds 3;person p guest age 2 in b;");
+        due("none of it is told already", x.marches(), 0);
+        due("nor is there its law", x.stay(0, 2), 3);
+        due("nor its doors", x.count(1) + x.room(0, 2) + x.room(1, 2), 0);
+        due("nor its unsaid rooms", x.count(5), 4);
+        due("nor what they held", x.room(1, 1), 0);
+        UnsaidRoom often = house("stays 9;");
+        for (int i = 0; i < 3; i++) {
+            tell(often, HOUSE);
+            due("again", often.marches(), 0);
+            due("much, again", often.stay(0, 1), 4);
+        }
+        for (int i = 2; i < 7; i++) {
+            tell(often, HOUSE + "stays " + times(150, "1-1+") + i + ";");
+            due("a long law, again", often.marches(), 0);
+            due("its stay", often.stay(0, 1), i);
+        }
         says(3, "minute 0, all where told, nobody was shown in, no nods, nothing burnt, no EVENING, nothing SEEN");
         UnsaidRoom y = busy();
         tell(y, HOUSE + "stays much+times;");
@@ -1272,6 +1320,8 @@ public final class UnsaidRoomEdges {
         y.show(1, 1);
         y.burn(2);
         due("hall and barn are left", y.halls(), 2);
+        due("one alone, and two", land("room a;room b;room c;door b c;").halls(), 2);
+        due("an unsaid one, and the last two", land("unsaid u holds 1;room a;room b;door a b;").halls(), 1);
         says(25, "HINGES, as bits");
         due("nothing", new UnsaidRoom().hinges(), 0);
         due("one room", land("room a;").hinges(), 0);
@@ -1493,6 +1543,22 @@ public final class UnsaidRoomEdges {
         due("1 at least", low.which(), 2 + 16);
         low.see(0, 1, false);
         due("so and not so", low.which(), 0);
+        String first = "unsaid u holds 2;unsaid v holds 3;room a;person p wife age 1 in a;";
+        UnsaidRoom zero = land(first);
+        zero.see(0, 2, true);
+        due("room 0", zero.which(), 1);
+        UnsaidRoom notZero = land(first);
+        notZero.see(0, 2, false);
+        due("not room 0", notZero.which(), 2);
+        UnsaidRoom anew = land(first);
+        anew.see(0, 2, true);
+        anew.see(0, 2, true);
+        tell(anew, first);
+        anew.marches();
+        due("nothing is seen by new marches", anew.which(), 3);
+        anew.see(0, 9, false);
+        anew.see(0, 2, false);
+        due("what was so is not by then", anew.which(), 2);
         says(36, "ASK; NONE: none parts them");
         due("nobody", land("unsaid u holds 1;unsaid v holds 2;").ask(), NONE);
         due("one room", land("unsaid u holds 1;room a;person p wife age 1 in a;").ask(), NONE);
@@ -1669,6 +1735,15 @@ public final class UnsaidRoomEdges {
         x.mark(1, true);
         x.mark(0, true);
         due("minute 3 again", x.count(3), 3);
+        UnsaidRoom seen = house("");
+        seen.mark(1, false);
+        seen.see(0, 4, true);
+        seen.mark(0, false);
+        seen.mark(1, true);
+        seen.see(0, 7, true);
+        due("of 7 minutes", seen.which(), 16);
+        seen.mark(0, true);
+        due("of 4 minutes, held", seen.which(), 2);
         says(40, "nothing can be undone when one is gone back to");
         x.minute();
         due("one", x.count(11), 1);
